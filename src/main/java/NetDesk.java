@@ -391,7 +391,7 @@ public final class NetDesk {
             String head = text.substring(0, queryAt);
             String query = text.substring(queryAt, markAt);
             String mark = text.substring(markAt);
-            if (!isQuery(query) || !isMark(mark)) {
+            if (!isQuery(query) || (!mark.isEmpty() && !Texts.isName(mark.substring(1)))) {
                 return null;
             }
             if (head.isEmpty()) {
@@ -447,10 +447,6 @@ public final class NetDesk {
         private static boolean isQuery(String part) {
             return part.isEmpty()
                 || (part.length() <= MOST_IN_QUERY + 1 && Texts.hasOnly(part.substring(1), QUERY_SIGNS));
-        }
-
-        private static boolean isMark(String part) {
-            return part.isEmpty() || Texts.isName(part.substring(1));
         }
     }
 
@@ -511,7 +507,7 @@ public final class NetDesk {
         }
 
         private void pop() {
-            if (size == 0 || joined.length() == 0) {
+            if (joined.length() == 0) {
                 return;
             }
             int cut = joined.length() - 1;
