@@ -89,6 +89,11 @@ public final class NetDeskPromises {
     return x;
   }
 
+  /** On a desk of its own: nothing is promised behind a desk's 512th call. */
+  private static String resolved(String base, String reference) {
+    return resolved(deskAt(base), reference);
+  }
+
   private static NetDesk deskAt(String base) {
     NetDesk x = new NetDesk();
     if (base(x, base) < 1) due("base " + base, "refused", "taken");
@@ -221,99 +226,101 @@ public final class NetDeskPromises {
   }
 
   private static void forms() {
-    NetDesk x = deskAt("//shop/a/b/c?q=1#m");
-    due("all of it", resolved(x, "//s/d/e?f#g"), "//s/d/e?f#g");
-    due("a site alone", resolved(x, "//s"), "//s/");
-    due("a site and /", resolved(x, "//s/"), "//s/");
-    due("a site and a query", resolved(x, "//s?x"), "//s/?x");
-    due("a site and a mark", resolved(x, "//s#x"), "//s/#x");
-    due("a path", resolved(x, "/d/e"), "//shop/d/e");
-    due("a path and a query", resolved(x, "/d?y"), "//shop/d?y");
-    due("an empty path", resolved(x, "/"), "//shop/");
-    due("a path with a mark", resolved(x, "/#k"), "//shop/#k");
-    due("empty segments", resolved(x, "/d///e/"), "//shop/d///e/");
-    due("segments", resolved(x, "d/e"), "//shop/a/b/d/e");
-    due("segments with an empty last", resolved(x, "d/"), "//shop/a/b/d/");
-    due("segments, a query, a mark", resolved(x, "d?e#f"), "//shop/a/b/d?e#f");
-    due("a query", resolved(x, "?z"), "//shop/a/b/c?z");
-    due("an empty query", resolved(x, "?"), "//shop/a/b/c?");
-    due("a query and a mark", resolved(x, "?#n"), "//shop/a/b/c?#n");
-    due("a mark", resolved(x, "#n"), "//shop/a/b/c?q=1#n");
-    due("nothing", resolved(x, ""), "//shop/a/b/c?q=1");
+    String base = "//shop/a/b/c?q=1#m";
+    due("all of it", resolved(base, "//s/d/e?f#g"), "//s/d/e?f#g");
+    due("a site alone", resolved(base, "//s"), "//s/");
+    due("a site and /", resolved(base, "//s/"), "//s/");
+    due("a site and a query", resolved(base, "//s?x"), "//s/?x");
+    due("a site and a mark", resolved(base, "//s#x"), "//s/#x");
+    due("a path", resolved(base, "/d/e"), "//shop/d/e");
+    due("a path and a query", resolved(base, "/d?y"), "//shop/d?y");
+    due("an empty path", resolved(base, "/"), "//shop/");
+    due("a path with a mark", resolved(base, "/#k"), "//shop/#k");
+    due("empty segments", resolved(base, "/d///e/"), "//shop/d///e/");
+    due("segments", resolved(base, "d/e"), "//shop/a/b/d/e");
+    due("segments with an empty last", resolved(base, "d/"), "//shop/a/b/d/");
+    due("segments, a query, a mark", resolved(base, "d?e#f"), "//shop/a/b/d?e#f");
+    due("a query", resolved(base, "?z"), "//shop/a/b/c?z");
+    due("an empty query", resolved(base, "?"), "//shop/a/b/c?");
+    due("a query and a mark", resolved(base, "?#n"), "//shop/a/b/c?#n");
+    due("a mark", resolved(base, "#n"), "//shop/a/b/c?q=1#n");
+    due("nothing", resolved(base, ""), "//shop/a/b/c?q=1");
+    NetDesk x = deskAt(base);
+    resolved(x, "//s/d/e?f#g");
     due("the base stays", written(x, 0), "//shop/a/b/c?q=1#m");
-    x = deskAt("//shop/a/");
-    due("in place of an empty last", resolved(x, "d"), "//shop/a/d");
-    due("nothing, without a query", resolved(x, ""), "//shop/a/");
-    x = deskAt("//shop?");
-    due("an empty query of the base", resolved(x, ""), "//shop/?");
-    due("no query behind a segment", resolved(x, "a"), "//shop/a");
-    due("all bytes of segments", resolved(x, "/az09._-"), "//shop/az09._-");
-    due("all bytes of queries", resolved(x, "?az09._-=&+"), "//shop/?az09._-=&+");
+    base = "//shop/a/";
+    due("in place of an empty last", resolved(base, "d"), "//shop/a/d");
+    due("nothing, without a query", resolved(base, ""), "//shop/a/");
+    base = "//shop?";
+    due("an empty query of the base", resolved(base, ""), "//shop/?");
+    due("no query behind a segment", resolved(base, "a"), "//shop/a");
+    due("all bytes of segments", resolved(base, "/az09._-"), "//shop/az09._-");
+    due("all bytes of queries", resolved(base, "?az09._-=&+"), "//shop/?az09._-=&+");
     for (String no : new String[] {"//", "///", "///a", "//9", "//9/a", "//A", "//a.b/", "//a_/", "//?q", "//#m", "A", "a=b",
         "/a&b", "a+b", "?A", "?a/b", "?a?b", "?a b", "#", "#9", "#M", "#a#b", "#a?b", "#a/b", "#a.b", "a:b", "a b", " a", "a ",
         "~", "a\n", "\n", "a\\b", "a#", "a?b#"}) {
-      due("NO ADDRESS " + no, resolved(x, no), "-1");
+      due("NO ADDRESS " + no, resolved(base, no), "-1");
     }
   }
 
   private static void dots() {
-    NetDesk x = deskAt("//shop/a/b/c");
-    due(".", resolved(x, "."), "//shop/a/b/");
-    due("./", resolved(x, "./"), "//shop/a/b/");
-    due("./d", resolved(x, "./d"), "//shop/a/b/d");
-    due("..", resolved(x, ".."), "//shop/a/");
-    due("../", resolved(x, "../"), "//shop/a/");
-    due("../d", resolved(x, "../d"), "//shop/a/d");
-    due("../..", resolved(x, "../.."), "//shop/");
-    due("../../..", resolved(x, "../../.."), "//shop/");
-    due("../../../../d", resolved(x, "../../../../d"), "//shop/d");
-    due("d/.", resolved(x, "d/."), "//shop/a/b/d/");
-    due("d/..", resolved(x, "d/.."), "//shop/a/b/");
-    due("d/../e", resolved(x, "d/../e"), "//shop/a/b/e");
-    due("d/./e", resolved(x, "d/./e"), "//shop/a/b/d/e");
-    due("/.", resolved(x, "/."), "//shop/");
-    due("/..", resolved(x, "/.."), "//shop/");
-    due("/../d", resolved(x, "/../d"), "//shop/d");
-    due("/./d", resolved(x, "/./d"), "//shop/d");
-    due("/d//../e", resolved(x, "/d//../e"), "//shop/d/e");
-    due("/d/..//e", resolved(x, "/d/..//e"), "//shop//e");
-    due("//s/..", resolved(x, "//s/.."), "//s/");
-    due("//s/a/./b/../c", resolved(x, "//s/a/./b/../c"), "//s/a/c");
-    due("..?q#m", resolved(x, "..?q#m"), "//shop/a/?q#m");
-    due("...", resolved(x, "..."), "//shop/a/b/...");
-    due("..a", resolved(x, "..a"), "//shop/a/b/..a");
-    due(".a/.", resolved(x, ".a/."), "//shop/a/b/.a/");
-    due("a./..", resolved(x, "a./.."), "//shop/a/b/");
-    due("dots of a query stay", resolved(x, "?.."), "//shop/a/b/c?..");
+    String base = "//shop/a/b/c";
+    due(".", resolved(base, "."), "//shop/a/b/");
+    due("./", resolved(base, "./"), "//shop/a/b/");
+    due("./d", resolved(base, "./d"), "//shop/a/b/d");
+    due("..", resolved(base, ".."), "//shop/a/");
+    due("../", resolved(base, "../"), "//shop/a/");
+    due("../d", resolved(base, "../d"), "//shop/a/d");
+    due("../..", resolved(base, "../.."), "//shop/");
+    due("../../..", resolved(base, "../../.."), "//shop/");
+    due("../../../../d", resolved(base, "../../../../d"), "//shop/d");
+    due("d/.", resolved(base, "d/."), "//shop/a/b/d/");
+    due("d/..", resolved(base, "d/.."), "//shop/a/b/");
+    due("d/../e", resolved(base, "d/../e"), "//shop/a/b/e");
+    due("d/./e", resolved(base, "d/./e"), "//shop/a/b/d/e");
+    due("/.", resolved(base, "/."), "//shop/");
+    due("/..", resolved(base, "/.."), "//shop/");
+    due("/../d", resolved(base, "/../d"), "//shop/d");
+    due("/./d", resolved(base, "/./d"), "//shop/d");
+    due("/d//../e", resolved(base, "/d//../e"), "//shop/d/e");
+    due("/d/..//e", resolved(base, "/d/..//e"), "//shop//e");
+    due("//s/..", resolved(base, "//s/.."), "//s/");
+    due("//s/a/./b/../c", resolved(base, "//s/a/./b/../c"), "//s/a/c");
+    due("..?q#m", resolved(base, "..?q#m"), "//shop/a/?q#m");
+    due("...", resolved(base, "..."), "//shop/a/b/...");
+    due("..a", resolved(base, "..a"), "//shop/a/b/..a");
+    due(".a/.", resolved(base, ".a/."), "//shop/a/b/.a/");
+    due("a./..", resolved(base, "a./.."), "//shop/a/b/");
+    due("dots of a query stay", resolved(base, "?.."), "//shop/a/b/c?..");
   }
 
   private static void limits() {
-    NetDesk x = deskAt("//shop/a/b/c/d/e/f");
+    String base = "//shop/a/b/c/d/e/f";
     String q40 = "abcdefghijklmnopqrstuvwxyz0123456789.-_=";
-    due("a name of 8", resolved(x, "//abcdefg8"), "//abcdefg8/");
-    due("a name of 9", resolved(x, "//abcdefgh9"), "-1");
-    due("a mark of 8", resolved(x, "/#abcdefg8"), "//shop/#abcdefg8");
-    due("a mark of 9", resolved(x, "/#abcdefgh9"), "-1");
-    due("a segment of 12", resolved(x, "/abcdefghijkl"), "//shop/abcdefghijkl");
-    due("a segment of 13", resolved(x, "/abcdefghijklm"), "-1");
-    due("a segment of 13 that goes", resolved(x, "/abcdefghijklm/.."), "-1");
-    due("a query of 40", resolved(x, "/?" + q40), "//shop/?" + q40);
-    due("a query of 41", resolved(x, "/?" + q40 + "a"), "-1");
-    due("6 segments", resolved(x, "/1/2/3/4/5/6"), "//shop/1/2/3/4/5/6");
-    due("7 segments", resolved(x, "/1/2/3/4/5/6/7"), "-1");
-    due("7 segments, the last empty", resolved(x, "/1/2/3/4/5/6/"), "-1");
-    due("7 empty segments", resolved(x, "/a//////"), "-1");
-    due("the sixth in place", resolved(x, "g"), "//shop/a/b/c/d/e/g");
-    due("two in place of the sixth", resolved(x, "g/h"), "-1");
-    due("more than 6 ahead of the dots", resolved(x, "/1/2/3/4/5/6/7/8/../.."), "-1");
-    due("6 behind the dots", resolved(x, "/1/2/3/4/5/6/7/8/../../.."), "//shop/1/2/3/4/5/");
-    due("dots don't count", resolved(x, "/1/./2/./3/./4/./5/./6"), "//shop/1/2/3/4/5/6");
-    due("a last . of the sixth", resolved(x, "/1/2/3/4/5/6/."), "-1");
+    due("a name of 8", resolved(base, "//abcdefg8"), "//abcdefg8/");
+    due("a name of 9", resolved(base, "//abcdefgh9"), "-1");
+    due("a mark of 8", resolved(base, "/#abcdefg8"), "//shop/#abcdefg8");
+    due("a mark of 9", resolved(base, "/#abcdefgh9"), "-1");
+    due("a segment of 12", resolved(base, "/abcdefghijkl"), "//shop/abcdefghijkl");
+    due("a segment of 13", resolved(base, "/abcdefghijklm"), "-1");
+    due("a segment of 13 that goes", resolved(base, "/abcdefghijklm/.."), "-1");
+    due("a query of 40", resolved(base, "/?" + q40), "//shop/?" + q40);
+    due("a query of 41", resolved(base, "/?" + q40 + "a"), "-1");
+    due("6 segments", resolved(base, "/1/2/3/4/5/6"), "//shop/1/2/3/4/5/6");
+    due("7 segments", resolved(base, "/1/2/3/4/5/6/7"), "-1");
+    due("7 segments, the last empty", resolved(base, "/1/2/3/4/5/6/"), "-1");
+    due("7 empty segments", resolved(base, "/a//////"), "-1");
+    due("the sixth in place", resolved(base, "g"), "//shop/a/b/c/d/e/g");
+    due("two in place of the sixth", resolved(base, "g/h"), "-1");
+    due("more than 6 ahead of the dots", resolved(base, "/1/2/3/4/5/6/7/8/../.."), "-1");
+    due("6 behind the dots", resolved(base, "/1/2/3/4/5/6/7/8/../../.."), "//shop/1/2/3/4/5/");
+    due("dots don't count", resolved(base, "/1/./2/./3/./4/./5/./6"), "//shop/1/2/3/4/5/6");
+    due("a last . of the sixth", resolved(base, "/1/2/3/4/5/6/."), "-1");
     StringBuilder many = new StringBuilder("/");
     for (int i = 0; i < 400; i++) many.append("a/");
     for (int i = 0; i < 399; i++) many.append("../");
-    due("many segments come and go", resolved(x, many.append("b").toString()), "//shop/a/b");
-    due("2000 bytes of /", resolved(x, "/" + "a/".repeat(999) + "a"), "-1");
+    due("many segments come and go", resolved(base, many.append("b").toString()), "//shop/a/b");
+    due("2000 bytes of /", resolved(base, "/" + "a/".repeat(999) + "a"), "-1");
   }
 
   private static void base() {
@@ -366,15 +373,16 @@ public final class NetDeskPromises {
     NetDesk x = desk("//keep/ age=5\nkept");
     String[] noAddress = {"", "\n", " \n", "a\n", "/a\n", "?q\n", "//A/\n", "//\n", "///\n", "//a/#m\n", "//a/b#m open\n", "//a/B\n",
       "//a/1/2/3/4/5/6/7\n", "//abcdefgh9/\n", " //a/\n", "//home/y#\n", "x", "\n//a/\n", "//a/b:c\n"};
-    for (String s : noAddress) due("server " + s, server(x, s), -1000);
+    for (String s : noAddress) due("server " + s, server(new NetDesk(), s), -1000);
     String[] noField = {"x", "", "ope", "openx", "Open", "age", "age=", "age=x", "age=1x", "age=12345", "age=-1", "age=+1", "age:1",
       "cookie", "cookie=", "cookie=a", "cookie=a:", "cookie=:a", "cookie=a:b:c", "cookie=A:b", "cookie=a:9", "cookie=a=b",
       "cookie=abcdefgh9:b", "cookie=a:abcdefgh9", "to", "to=A", "to=//", "to=//9", "to=#", "to=?q?q", "to=1/2/3/4/5/6/7", "to=a:b",
       "open=", "AGE=1", "age =1"};
     for (String f : noField) {
-      due("field <" + f + ">", server(x, "//a/b " + f + "\nbody"), -1006);
-      due("behind another, field <" + f + ">", server(x, "//a/b to=x " + f + "\nbody"), -1011);
-      due("without byte 10, field <" + f + ">", server(x, "//a/b " + f), -1006);
+      NetDesk y = new NetDesk();
+      due("field <" + f + ">", server(y, "//a/b " + f + "\nbody"), -1006);
+      due("behind another, field <" + f + ">", server(y, "//a/b to=x " + f + "\nbody"), -1011);
+      due("without byte 10, field <" + f + ">", server(y, "//a/b " + f), -1006);
     }
     String[][] twice = {{"open", "open"}, {"age=1", "age=1"}, {"age=0", "age=2"}, {"cookie=a:b", "cookie=c:d"}, {"to=a", "to=b"},
       {"to=", "to="}};
@@ -389,10 +397,10 @@ public final class NetDeskPromises {
     due("no byte 10", server(x, "//a/b open age=3"), -1016);
     due("no byte 10, a blank at the end", server(x, "//a/b "), -1006);
     due("a bad byte of the body is ahead of all else", server(x, "nothing\nbody\1"), -1012);
-    due("a body of 1501", server(x, "//a/\n" + "b".repeat(1501)), -2505);
-    due("a body of 1501 lines", server(x, "//a/ open\n" + "\n".repeat(1501)), -2510);
-    due("a longer one", server(x, "//a/\n" + "b".repeat(1995)), -2505);
-    due("a wrong field is ahead of a long body", server(x, "//a/ no\n" + "b".repeat(1501)), -1005);
+    due("a body of 1501", server(desk("//keep/\n"), "//a/\n" + "b".repeat(1501)), -2505);
+    due("a body of 1501 lines", server(desk("//keep/\n"), "//a/ open\n" + "\n".repeat(1501)), -2510);
+    due("a longer one", server(desk("//keep/\n"), "//a/\n" + "b".repeat(1995)), -2505);
+    due("a wrong field is ahead of a long body", server(desk("//keep/\n"), "//a/ no\n" + "b".repeat(1501)), -1005);
     due("they change nothing", x.count(0), 1);
     due("a body of 1500", server(x, "//a/\n" + "b".repeat(1500)), 2);
     due("it comes", fetch(x, "//a/"), 1500);
